@@ -1200,7 +1200,7 @@ public final class TypewritersKnow {
             return false;
         }
 
-        void record(int number) {
+        void note(int number) {
             if (ran < TRACE_MOST) {
                 traced[ran] = number;
             }
@@ -1217,7 +1217,7 @@ public final class TypewritersKnow {
                 return 0;
             }
             int number = OWN[ACTS * kind + act];
-            record(number);
+            note(number);
             return kind == 0 ? runGhost(number, n, x, depth) : runUnder(number, n, x, depth, ABOVE[kind]);
         }
 
