@@ -109,10 +109,10 @@ public final class TypewritersKnow {
     }
 
     public int later(int shelf, int n, int machine, int what) {
-        if (!isShelf(shelf) || n < 0 || n > DAY_MOST || !now.has(machine) || what < 0 || what > 3) {
+        if (n < 0 || n > DAY_MOST || !now.has(machine) || what < 0 || what > 3) {
             return BAD;
         }
-        int refused = shelves[shelf].refusal(BYTES);
+        int refused = rowRefusal(shelf, BYTES);
         if (refused != 0) {
             return refused;
         }
@@ -121,14 +121,14 @@ public final class TypewritersKnow {
     }
 
     public int letter(int shelf, int k) {
-        if (!isShelf(shelf) || k < -1) {
+        if (k < -1) {
             return BAD;
         }
-        Shelf day = shelves[shelf];
-        int refused = day.refusal(BYTES);
+        int refused = rowRefusal(shelf, BYTES);
         if (refused != 0) {
             return refused;
         }
+        Shelf day = shelves[shelf];
         if (k == -1) {
             return thinkDay(day, DAY_MOST);
         }
@@ -139,14 +139,11 @@ public final class TypewritersKnow {
     }
 
     public int still(int shelf) {
-        if (!isShelf(shelf)) {
-            return BAD;
-        }
-        Shelf day = shelves[shelf];
-        int refused = day.refusal(BYTES);
+        int refused = rowRefusal(shelf, BYTES);
         if (refused != 0) {
             return refused;
         }
+        Shelf day = shelves[shelf];
         thought.copy(now);
         for (int rounds = 0; rounds <= WAIT_MOST; rounds++) {
             if (!playRound(day)) {
@@ -220,18 +217,18 @@ public final class TypewritersKnow {
     // ---- whose
 
     public int whose(int shelf, int machine) {
-        if (!isShelf(shelf) || !now.has(machine)) {
+        if (!now.has(machine)) {
             return BAD;
         }
-        int refused = shelves[shelf].refusal(BYTES);
+        int refused = rowRefusal(shelf, BYTES);
         return refused != 0 ? refused : writersFor(shelves[shelf], machine);
     }
 
     public int where(int shelf, int writer) {
-        if (!isShelf(shelf) || !writers.has(writer)) {
+        if (!writers.has(writer)) {
             return BAD;
         }
-        int refused = shelves[shelf].refusal(BYTES);
+        int refused = rowRefusal(shelf, BYTES);
         if (refused != 0) {
             return refused;
         }
@@ -245,10 +242,10 @@ public final class TypewritersKnow {
     }
 
     public int pairs(int shelf, int what) {
-        if (!isShelf(shelf) || what < 0 || what > 1) {
+        if (what < 0 || what > 1) {
             return BAD;
         }
-        int refused = shelves[shelf].refusal(BYTES);
+        int refused = rowRefusal(shelf, BYTES);
         if (refused != 0) {
             return refused;
         }
@@ -266,10 +263,10 @@ public final class TypewritersKnow {
     }
 
     public int between(int shelf, int wm, int other) {
-        if (!isShelf(shelf) || !isPair(wm) || !writers.has(other)) {
+        if (!isPair(wm) || !writers.has(other)) {
             return BAD;
         }
-        int refused = shelves[shelf].refusal(BYTES);
+        int refused = rowRefusal(shelf, BYTES);
         if (refused != 0) {
             return refused;
         }
@@ -284,22 +281,19 @@ public final class TypewritersKnow {
     }
 
     public int judge(int shelf) {
-        if (!isShelf(shelf)) {
-            return BAD;
-        }
-        int refused = shelves[shelf].refusal(SHORTS);
+        int refused = rowRefusal(shelf, SHORTS);
         return refused != 0 ? refused : firstWrong(shelves[shelf], now.ribbon, -1, -1);
     }
 
     public int falseOne(int shelf, int k) {
-        if (!isShelf(shelf) || k < 0) {
+        if (k < 0) {
             return BAD;
         }
-        Shelf book = shelves[shelf];
-        int refused = book.refusal(SHORTS);
+        int refused = rowRefusal(shelf, SHORTS);
         if (refused != 0) {
             return refused;
         }
+        Shelf book = shelves[shelf];
         // A three that lacks is one, too: judge() tells its place.
         if (k >= (book.size + 2) / 3) {
             return NOT;
@@ -314,10 +308,10 @@ public final class TypewritersKnow {
     }
 
     public int ribbons(int shelf, int what) {
-        if (!isShelf(shelf) || what < 0 || what > 1) {
+        if (what < 0 || what > 1) {
             return BAD;
         }
-        int refused = shelves[shelf].refusal(SHORTS);
+        int refused = rowRefusal(shelf, SHORTS);
         if (refused != 0) {
             return refused;
         }
@@ -598,6 +592,18 @@ public final class TypewritersKnow {
         return wm >= 0 && writers.has(wm / 10) && now.has(wm % 10);
     }
 
+    /** 0, or why a SHELF has no ROW of a sort. */
+    private int rowRefusal(int shelf, int sort) {
+        if (!isShelf(shelf)) {
+            return BAD;
+        }
+        if (shelves[shelf].isEmpty()) {
+            return NOTHING_THERE;
+        }
+        return shelves[shelf].isRowOf(sort) ? 0 : OTHER_KIND;
+    }
+
+    /** 0, or why a SHELF has no ROW with a place i. */
     private int cellRefusal(int shelf, int i) {
         if (!isShelf(shelf)) {
             return BAD;
@@ -671,7 +677,8 @@ public final class TypewritersKnow {
         grips.unlike = Math.abs(writers.hand(writer, habit) - at.pull(machine, habit));
         grips.ribbon = at.ribbon;
         grips.machine = machine;
-        return grips.grip();
+        int free = grips.told ? grips.value() : 6 + grips.age / 10 - grips.touch / 3;
+        return Math.max(0, Math.min(Codes.TOP, free));
     }
 
     private int shown(Machines at, int writer, int machine, int habit) {
@@ -1131,14 +1138,6 @@ public final class TypewritersKnow {
             ghost = NO_GHOST;
         }
 
-        /** 0, or why it is no ROW of a sort. */
-        int refusal(int wanted) {
-            if (isEmpty()) {
-                return NOTHING_THERE;
-            }
-            return isRowOf(wanted) ? 0 : OTHER_KIND;
-        }
-
         boolean hasSpan(int from, int many) {
             return from >= 0 && many >= 0 && many <= size && from <= size - many;
         }
@@ -1253,8 +1252,8 @@ public final class TypewritersKnow {
     /** THE TAPE, and its reading into steps: operands first, then their sign. */
     static final class Tape {
         static final int MOST = 120, OPEN_MOST = 6, DIGITS_MOST = 4;
-        /** Each byte gives one step at most, and each line one more. */
-        static final int STEPS_MOST = 2 * MOST;
+        /** Each byte gives one step at most (a ; that of its line), and the last line's end one more. */
+        static final int STEPS_MOST = MOST + 1;
         /** A step from 0 on is a number; a NAME and a sign are their byte below 0. */
         static final int NEGATE = -1, COUNTS = -2, CHOOSES = -3;
         static final int EITHER = 0, BOTH = 1, COMPARED = 2, SUM = 3, PRODUCT = 4, OPERAND = 5;
@@ -1406,13 +1405,13 @@ public final class TypewritersKnow {
 
     /** THE LAW: steps over a stack, and what the NAMES stand for. */
     static final class Law {
-        static final int STACK_MOST = 128;
+        /** Of 120 bytes each second one can be an operand. */
+        static final int STACK_MOST = 64;
 
         final int[] steps = new int[Tape.STEPS_MOST];
         int stepsSize;
         boolean told;
         final int[] stack = new int[STACK_MOST];
-        int height;
         int age;
         int touch;
         int habit;
@@ -1426,30 +1425,37 @@ public final class TypewritersKnow {
             told = true;
         }
 
-        int grip() {
-            int free = told ? lineThatCounts() : 6 + age / 10 - touch / 3;
-            return Math.max(0, Math.min(Codes.TOP, free));
-        }
-
-        int lineThatCounts() {
-            height = 0;
+        /** The value of the first LINE that counts. */
+        int value() {
+            int height = 0;
             for (int i = 0; i < stepsSize; i++) {
-                if (steps[i] == Tape.COUNTS) {
-                    return pop();
+                int step = steps[i];
+                int wanted = operandsOf(step);
+                if (height < wanted || height >= STACK_MOST) {
+                    return 0;
                 }
-                if (steps[i] == Tape.CHOOSES) {
-                    int value = pop();
-                    if (pop() != 0) {
-                        return value;
-                    }
-                } else {
-                    push(valueOfStep(steps[i]));
+                int right = wanted > 0 ? stack[height - 1] : 0;
+                int left = wanted > 1 ? stack[height - 2] : 0;
+                height -= wanted;
+                if (step == Tape.COUNTS || step == Tape.CHOOSES && left != 0) {
+                    return right;
+                }
+                if (step != Tape.CHOOSES) {
+                    stack[height] = valueOfStep(step, left, right);
+                    height++;
                 }
             }
             return 0;
         }
 
-        int valueOfStep(int step) {
+        static int operandsOf(int step) {
+            if (step >= 0 || Tape.isName(-step)) {
+                return 0;
+            }
+            return step == Tape.NEGATE || step == -'!' || step == Tape.COUNTS ? 1 : 2;
+        }
+
+        int valueOfStep(int step, int left, int right) {
             if (step >= 0) {
                 return step;
             }
@@ -1460,46 +1466,19 @@ public final class TypewritersKnow {
                 case 'd': return unlike;
                 case 'r': return ribbon;
                 case 'm': return machine;
-                case -Tape.NEGATE: return -pop();
-                case '!': return bit(pop() == 0);
-                default: return joined(-step);
-            }
-        }
-
-        int joined(int sign) {
-            int right = pop();
-            int left = pop();
-            switch (sign) {
-                case '|': return bit(left != 0 || right != 0);
-                case '&': return bit(left != 0 && right != 0);
-                case '<': return bit(left < right);
-                case '=': return bit(left == right);
-                case '>': return bit(left > right);
+                case -Tape.NEGATE: return -right;
+                case '!': return right == 0 ? 1 : 0;
+                case '|': return left != 0 || right != 0 ? 1 : 0;
+                case '&': return left != 0 && right != 0 ? 1 : 0;
+                case '<': return left < right ? 1 : 0;
+                case '=': return left == right ? 1 : 0;
+                case '>': return left > right ? 1 : 0;
                 case '+': return left + right;
                 case '-': return left - right;
                 case '*': return left * right;
                 case '/': return right == 0 ? 0 : left / right;
                 default: return right == 0 ? 0 : left % right;
             }
-        }
-
-        static int bit(boolean so) {
-            return so ? 1 : 0;
-        }
-
-        void push(int value) {
-            if (height < STACK_MOST) {
-                stack[height] = value;
-                height++;
-            }
-        }
-
-        int pop() {
-            if (height <= 0) {
-                return 0;
-            }
-            height--;
-            return stack[height];
         }
     }
 }
