@@ -77,6 +77,11 @@ public final class PromisesTest {
         }
         due("1 no image", x.back(), STATE);
         due("1 no trace", x.trace(0), BAD);
+        due("1 BAD", BAD, -1);
+        due("1 NOT", NOT, -2);
+        due("1 FULL", FULL, -3);
+        due("1 STATE", STATE, -5);
+        due("1 VOID", TypewritersKnow.VOID, -2000000000);
         due("1 two objects are apart", fresh().machine(), 0);
         due("1 two objects are apart", x.count(0), 0);
     }
@@ -126,7 +131,10 @@ public final class PromisesTest {
         x.keep(1, 0);
         due("3 ghost", x.machines(1, 0, 1), -12);
         x.row(2, 0, 60);
-        due("3 till full", x.machines(2, 0, 8), 5);
+        x.put(2, 3, 4);
+        due("3 two of many", x.machines(2, 0, 2), 2);
+        due("3 the second", x.of(4, 0), 4);
+        due("3 till full", x.machines(2, 0, 8), 3);
         due("3 full", x.machines(2, 0, 8), 0);
         due("3 count", x.count(0), 8);
     }
@@ -681,6 +689,8 @@ public final class PromisesTest {
         x.writer(code(0, 6, 6));
         due("29 each day from now", x.drawn(1, 302, -1), 3 * 4);
         due("29 how often", x.drawn(1, 302, 0), 6);
+        due("29 least", x.drawn(1, 101, -1), 5);
+        due("29 most", x.drawn(1, 3030, 0), 900);
         due("29 in thought", x.of(0, 0), 6);
         x.machine();
         int z = -7;
@@ -831,6 +841,33 @@ public final class PromisesTest {
             due("37 forty", y.redo(), i);
         }
         due("37 the newest", y.of(0, 3), 43);
+        mixedChanges();
+    }
+
+    /** More changes than are kept, of all numbers in turn, with each step back and forth looked at. */
+    private static void mixedChanges() {
+        TypewritersKnow x = fresh();
+        for (int i = 0; i < 4; i++) {
+            x.machine();
+            x.writer(code(6, 6, 6));
+        }
+        int[][] steps = new int[50][];
+        for (int i = 0; i < 50; i++) {
+            int what = i % 9;
+            int number = what == 8 ? 0 : i % 4;
+            int v = (x.of(number, what) + 1 + i % 7) % 10;
+            steps[i] = new int[] {number, what, x.mend(number, what, v), v};
+        }
+        for (int i = 49; i >= 10; i--) {
+            due("36 mixed", x.undo(), i - 10);
+            due("36 mixed number", x.of(steps[i][0], steps[i][1]), steps[i][2]);
+        }
+        due("36 mixed, no more", x.undo(), STATE);
+        for (int i = 10; i < 50; i++) {
+            due("37 mixed", x.redo(), 49 - i);
+            due("37 mixed number", x.of(steps[i][0], steps[i][1]), steps[i][3]);
+        }
+        due("37 mixed, no more", x.redo(), STATE);
     }
 
     private static void traced(TypewritersKnow x, int... numbers) {
