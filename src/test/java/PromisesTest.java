@@ -122,7 +122,8 @@ public final class PromisesTest {
         due("3 from a place, pull 2", x.of(1, 2), 1);
         due("3 ends within a three", x.machines(0, 7, 2), 0);
         due("3 up to the end", x.machines(0, 6, 2), 1);
-        bytes(x, 0, 3, 4, -1, 3, 4, 5);
+        bytes(x, 0, 3, 4, -1, 3, 4, 5, 99);
+        due("3 what stands behind does not matter", x.machines(0, 3, 1), 1);
         due("3 below 0", x.machines(0, 0, 2), 0);
         x.row(1, 1, 6);
         due("3 shorts", x.machines(1, 0, 1), -12);
@@ -133,8 +134,8 @@ public final class PromisesTest {
         x.row(2, 0, 60);
         x.put(2, 3, 4);
         due("3 two of many", x.machines(2, 0, 2), 2);
-        due("3 the second", x.of(4, 0), 4);
-        due("3 till full", x.machines(2, 0, 8), 3);
+        due("3 the second", x.of(5, 0), 4);
+        due("3 till full", x.machines(2, 0, 8), 2);
         due("3 full", x.machines(2, 0, 8), 0);
         due("3 count", x.count(0), 8);
     }
@@ -269,6 +270,12 @@ public final class PromisesTest {
         }
         longest.append("9");
         due("8 120 bytes", tell(x, longest.toString()), 1);
+        due("8 most steps", tell(x, "!0" + "+0".repeat(58) + "+5"), 1);
+        due("8 most steps", x.shows(0, 0, 1), 6);
+        due("8 most lines", tell(x, "0?1;".repeat(29) + "0;12"), 1);
+        due("8 most lines", x.shows(0, 0, 1), 0);
+        due("8 most lines", tell(x, "0?1;".repeat(29) + "8;12"), 1);
+        due("8 most lines", x.shows(0, 0, 1), 8);
         due("8 120 bytes that end too early", tell(x, longest.substring(0, 119) + "-"), -220);
     }
 
