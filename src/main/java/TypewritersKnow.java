@@ -39,7 +39,7 @@ public final class TypewritersKnow {
     }
 
     public int machines(int shelf, int i, int n) {
-        if (!isShelf(shelf) || i < 0 || n < 1 || n > Machines.MOST) {
+        if (!isShelf(shelf) || n < 1 || n > Machines.MOST) {
             return BAD;
         }
         Shelf from = shelves[shelf];
@@ -50,7 +50,7 @@ public final class TypewritersKnow {
             return OTHER_KIND;
         }
         int came = 0;
-        // An i beyond the row ends it at once, before 3 * came can wrap.
+        // A place i that is not there ends it at once, as the row's end does, before 3 * came can wrap.
         while (came < n && i < from.size && !now.isFull() && pullsStandAt(from, i + 3 * came)) {
             int at = i + 3 * came;
             now.join((int) from.cells[at], (int) from.cells[at + 1], (int) from.cells[at + 2]);
@@ -294,8 +294,8 @@ public final class TypewritersKnow {
             return refused;
         }
         Shelf book = shelves[shelf];
-        // A three that lacks is one, too: judge() tells its place.
-        if (k >= (book.size + 2) / 3) {
+        // Elements behind the last whole three are none, though judge() tells their place.
+        if (k >= book.size / 3) {
             return NOT;
         }
         int bits = 0;

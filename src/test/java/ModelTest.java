@@ -261,7 +261,7 @@ public final class ModelTest {
             x.put(2, i, book[i]);
         }
         due("judge", x.judge(2), wrongThree(book));
-        for (int k = 0; 3 * k < size; k++) {
+        for (int k = 0; k < size / 3; k++) {
             int bits = 0;
             int told = book[3 * k];
             for (int w = 0; w < hands.length; w++) {
@@ -271,7 +271,7 @@ public final class ModelTest {
             book[3 * k] = told;
             due("false " + k, x.falseOne(2, k), bits);
         }
-        due("false behind", x.falseOne(2, (size + 2) / 3), TypewritersKnow.NOT);
+        due("false behind", x.falseOne(2, size / 3), TypewritersKnow.NOT);
         int kept = ribbon;
         int many = 0;
         int least = TypewritersKnow.NOT;

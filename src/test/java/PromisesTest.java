@@ -103,11 +103,17 @@ public final class PromisesTest {
         TypewritersKnow x = fresh();
         due("3 missing", x.machines(0, 0, 1), 0);
         due("3 missing, n", x.machines(0, 0, 9), BAD);
+        due("3 missing, place below 0", x.machines(0, -1, 1), 0);
+        due("3 missing, place below 0", x.machines(5, MIN, 8), 0);
+        due("3 missing, place below 0, n", x.machines(0, -1, 0), BAD);
         bytes(x, 0, 0, 12, 6, 1, 2, 13, 5, 5, 5);
         due("3 shelf", x.machines(-1, 0, 1), BAD);
         due("3 shelf", x.machines(6, 0, 1), BAD);
-        due("3 place", x.machines(0, -1, 1), BAD);
-        due("3 place", x.machines(0, MIN, 1), BAD);
+        due("3 place below 0", x.machines(0, -1, 1), 0);
+        due("3 place below 0", x.machines(0, -3, 8), 0);
+        due("3 place below 0", x.machines(0, MIN, 8), 0);
+        due("3 place below 0, shelf", x.machines(6, -1, 1), BAD);
+        due("3 place below 0, n", x.machines(0, -1, 9), BAD);
         due("3 n 0", x.machines(0, 0, 0), BAD);
         due("3 n 9", x.machines(0, 0, 9), BAD);
         due("3 place behind", x.machines(0, 9, 1), 0);
@@ -127,10 +133,12 @@ public final class PromisesTest {
         due("3 below 0", x.machines(0, 0, 2), 0);
         x.row(1, 1, 6);
         due("3 shorts", x.machines(1, 0, 1), -12);
+        due("3 shorts, place below 0", x.machines(1, -1, 1), -12);
         due("3 shorts, n", x.machines(1, 0, 0), BAD);
         x.body(0);
         x.keep(1, 0);
         due("3 ghost", x.machines(1, 0, 1), -12);
+        due("3 ghost, place below 0", x.machines(1, MIN, 1), -12);
         x.row(2, 0, 60);
         x.put(2, 3, 4);
         due("3 two of many", x.machines(2, 0, 2), 2);
@@ -601,7 +609,13 @@ public final class PromisesTest {
         due("22 no such machine", x.judge(0), 1);
         fill(x, 0, 1, 0, 0, code(2, 6, 6), 0, 0);
         due("22 lacking", x.judge(0), 1);
-        due("23 lacking", x.falseOne(0, 0), 0);
+        due("23 lacking behind it", x.falseOne(0, 0), 0);
+        due("23 two of three are no three", x.falseOne(0, 1), NOT);
+        fill(x, 0, 1, 0, 0, code(2, 6, 6), 0);
+        due("23 one of three is no three", x.falseOne(0, 1), NOT);
+        fill(x, 0, 1, 0, 0);
+        due("22 lacking at once", x.judge(0), 0);
+        due("23 no whole three", x.falseOne(0, 0), NOT);
         // GRIP 0 to 9 by the RIBBON: 0 * (12 - r) + 6 * r by 12 is 1 for r = 2, 3.
         fill(x, 0, 1, 0, 0, code(1, 6, 6));
         due("24 two", x.ribbons(0, 0), 2);
