@@ -1207,7 +1207,7 @@ public final class TypewritersKnow {
         }
 
         /** An ACT by the body of a KIND, or of the next KIND above that has one. */
-        int perform(int n, int from, int act, int x, int depth) {
+        private int perform(int n, int from, int act, int x, int depth) {
             int kind = from;
             for (int step = 0; step < KINDS && kind >= 0 && OWN[ACTS * kind + act] == 0; step++) {
                 kind = ABOVE[kind];
@@ -1221,11 +1221,11 @@ public final class TypewritersKnow {
         }
 
         /** An ACT by the body of its own KIND. */
-        int own(int n, int act, int x, int depth) {
+        private int own(int n, int act, int x, int depth) {
             return perform(n, kinds[n], act, x, depth + 1);
         }
 
-        int runGhost(int number, int n, int x, int depth) {
+        private int runGhost(int number, int n, int x, int depth) {
             switch (number) {
                 case 1: return x + n;
                 case 2: return own(n, STICKS, x, depth) - own(n, RINGS, 1, depth);
@@ -1234,7 +1234,7 @@ public final class TypewritersKnow {
             }
         }
 
-        int runUnder(int number, int n, int x, int depth, int above) {
+        private int runUnder(int number, int n, int x, int depth, int above) {
             switch (number) {
                 case 20: return perform(n, above, TYPES, x, depth + 1) + 3;
                 case 30: return -perform(n, above, STICKS, x, depth + 1);
@@ -1305,7 +1305,7 @@ public final class TypewritersKnow {
         }
 
         /** E, A, B, S, P and O are levels; `open` is how many of ( ! - stand open. */
-        boolean readLevel(int level, int open) {
+        private boolean readLevel(int level, int open) {
             if (level >= OPERAND) {
                 return readOperand(open);
             }
@@ -1324,7 +1324,7 @@ public final class TypewritersKnow {
             return true;
         }
 
-        boolean readOperand(int open) {
+        private boolean readOperand(int open) {
             int first = next();
             if (isDigit(first)) {
                 readNumber();
