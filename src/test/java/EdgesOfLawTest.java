@@ -50,6 +50,7 @@ public final class EdgesOfLawTest extends Edges {
         gives("0?9;".repeat(29) + "0?11", 0);
         gives("-1+".repeat(39) + "045", 6);
         gives("0|".repeat(59) + "00", 0);
+        gives("!0" + "+0".repeat(58) + "+5", 6);
         gives("1*".repeat(59) + "09", 9);
         gives("1&".repeat(59) + "1", 1);
     }

@@ -300,6 +300,20 @@ public final class EdgesOfLettersTest extends Edges {
         }
     }
 
+    @Says("the first round comes that leaves all PULLS as they were (NOT by 99)")
+    static void p12_allPullsOfEightMachines() {
+        TypewritersKnow x = with(8, code(6, 6, 6));
+        x.row(0, BYTES, 16);
+        for (int machine = 0; machine < 8; machine++) {
+            x.put(0, 2 * machine + 1, machine);
+        }
+        due("none moves", x.still(0), 0);
+        x.mend(7, 2, 12);
+        due("the last PULL of all moves", x.still(0), 6);
+        x.row(0, BYTES, 14);
+        due("nobody types on it", x.still(0), 0);
+    }
+
     /** Each PULL goes one way only, so no DAY needs more than 12 rounds: NOT never comes. */
     @Says("(0 .. 99) the first round comes that leaves all PULLS as they were (NOT by 99)")
     static void p12_twelveRoundsAreTheMost() {
@@ -563,6 +577,18 @@ public final class EdgesOfLettersTest extends Edges {
         due("code 0", x.bring(0, 0, -1), 6);
         due("code 2196", x.bring(0, 2196, -1), 6);
         due("its first", x.bring(0, 2196, 0), 1);
+        pulls(x, 0, 0, 0, 0);
+        due("from 0 to 0", x.bring(0, 0, -1), 0);
+        due("from 0 to 2196", x.bring(0, 2196, -1), 12);
+        due("its last", x.bring(0, 2196, 11), 1);
+        pulls(x, 0, 12, 12, 12);
+        due("from 2196 to 2196", x.bring(0, 2196, -1), 0);
+        due("from 2196 to 0", x.bring(0, 0, -1), 12);
+        due("its last", x.bring(0, 0, 11), 0);
+        pulls(x, 0, 6, 6, 6);
+        TypewritersKnow up = with(1, 2196);
+        pulls(up, 0, 0, 0, 0);
+        due("from 0 to 0, nobody leads there", up.bring(0, 0, -1), 0);
         due("its last", x.bring(0, 2196, 5), 1);
     }
 
@@ -591,6 +617,10 @@ public final class EdgesOfLettersTest extends Edges {
     static void p17_notIfItIsNever() {
         still(NOT, "never", x -> x.bring(0, code(6, 6, 12), -1));
         still(NOT, "never, k 0", x -> x.bring(0, code(6, 6, 12), 0));
+        still(NOT, "behind where it came from", () -> with(1, 2196), x -> x.bring(0, code(1, 1, 1), -1));
+        still(NOT, "one the other way", () -> with(1, 2196), x -> x.bring(0, code(5, 5, 5), -1));
+        still(NOT, "one the other way, k 0", () -> with(1, 2196), x -> x.bring(0, code(5, 5, 5), 0));
+        still(NOT, "not by one of eight", () -> with(1, 2196, 0, 2196, 0, 2196, 0, 2196, 0), x -> x.bring(0, code(6, 6, 5), -1));
         still(0, "nobody, as it is", () -> with(1), x -> x.bring(0, code(6, 6, 6), -1));
         still(NOT, "nobody, one beside", () -> with(1), x -> x.bring(0, code(6, 6, 5), -1));
         still(NOT, "nobody, as it is, k 0", () -> with(1), x -> x.bring(0, code(6, 6, 6), 0));

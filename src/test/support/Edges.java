@@ -192,7 +192,8 @@ abstract class Edges {
 
     private static String allOf(TypewritersKnow x, Call c) {
         StringBuilder all = new StringBuilder();
-        for (long answer = 0; answer >= 0; ) {
+        long answer = 0;
+        for (int i = 0; i < 50 && answer >= 0; i++) {
             answer = c.on(x);
             all.append(answer).append(' ');
         }
