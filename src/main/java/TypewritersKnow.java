@@ -1065,10 +1065,10 @@ public final class TypewritersKnow {
             queue[0] = start;
             ways[start] = 8 * start;
             int waiting = 1;
-            for (int i = 0; i < waiting && ways[end] == UNSEEN; i++) {
+            for (int i = 0; i < Codes.MANY && i < waiting && ways[end] == UNSEEN; i++) {
                 for (int writer = 0; writer < writers.size; writer++) {
                     int next = typed(queue[i], writers, writer);
-                    if (ways[next] == UNSEEN) {
+                    if (ways[next] == UNSEEN && waiting < Codes.MANY) {
                         ways[next] = 8 * queue[i] + writer;
                         queue[waiting] = next;
                         waiting++;
