@@ -57,12 +57,12 @@ public final class TwinTest {
             case 'n': return random.nextInt(random.nextBoolean() ? 9 : 32);
             case 'p': return random.nextInt(random.nextBoolean() ? 7 : 62) - 1;
             case 'q': return random.nextInt(random.nextInt(4) == 0 ? 7 : 4);
-            case 'r': return random.nextInt(5);
-            case 't': return 100 * random.nextInt(3) + random.nextInt(13);
-            case 'v': return random.nextInt(random.nextInt(4) == 0 ? 100 : 13);
+            case 'r': return random.nextInt(6);
+            case 't': return 100 * random.nextInt(random.nextInt(9) == 0 ? 4 : 3) + random.nextInt(14);
+            case 'v': return random.nextInt(4) == 0 ? random.nextInt(102) - 1 : random.nextInt(4) == 0 ? 99 : random.nextInt(13);
             case 'w': return random.nextInt(9);
             case 'f': return random.nextInt(258) - 1;
-            case 'd': return 100 * (1 + random.nextInt(30)) + 1 + random.nextInt(30);
+            case 'd': return 100 * random.nextInt(32) + random.nextInt(32);
             case '$': return random.nextInt(1000);
             case '#': return random.nextBoolean() ? random.nextLong() : random.nextInt(400) - 200;
             default: return random.nextInt();
@@ -100,20 +100,79 @@ public final class TwinTest {
     }
 
     private void tellLaw() {
-        String[] good = {"r", "r+h", "a%13", "t>5?m+2;12-d", "(a+r)%13", "d", "6", "h=1?r*2;h=2&a>3?3;9", "!(r>4)*12", "-(-d)/2+r/3"};
         String signs = "athdrm0123456789|&<=>+-*/%!()?;";
         if (random.nextInt(12) == 0) {
             tellLongText();
             return;
         }
-        StringBuilder text = new StringBuilder(good[random.nextInt(good.length)]);
-        if (random.nextInt(3) == 0) {
+        StringBuilder text = new StringBuilder(grownLine());
+        while (random.nextInt(3) == 0) {
+            text.append(';').append(grownLine());
+        }
+        if (random.nextInt(4) == 0) {
             text.insert(random.nextInt(text.length() + 1), signs.charAt(random.nextInt(signs.length())));
         }
-        for (char c : text.toString().toCharArray()) {
-            later("feed", (int) c);
+        for (int i = 0; i < text.length() && i < 100; i++) {
+            later("feed", text.charAt(i));
         }
         later("law");
+        for (int i = 0; i < 6; i++) {
+            later("shows", arguments("shows"));
+        }
+    }
+
+    private String grownLine() {
+        return random.nextBoolean() ? grown(0) : grown(0) + "?" + grown(0);
+    }
+
+    /** Some are one sign too deep, or have five digits. */
+    private String grown(int open) {
+        int sort = random.nextInt(12);
+        if (sort < 4) {
+            return grown(open) + "|&+-*/%|&+-*/%<=>".charAt(random.nextInt(17)) + grown(open);
+        }
+        if (sort < 6 && open < 8) {
+            return (random.nextBoolean() ? "!" : "-") + grown(open + 1);
+        }
+        if (sort == 6 && open < 8) {
+            return "(" + grown(open + 1) + ")";
+        }
+        if (sort == 7 && random.nextInt(4) == 0) {
+            return random.nextBoolean() ? "((((((" + grown(6) + "))))))" : "!-!-!" + grown(5);
+        }
+        return sort < 10 ? String.valueOf("athdrm".charAt(random.nextInt(6)))
+            : String.valueOf(random.nextInt(random.nextInt(6) == 0 ? 12000 : 14));
+    }
+
+    /** Often more than are kept, then as many of them undone as may be. */
+    private void tellChanges() {
+        int many = random.nextInt(90);
+        for (int i = 0; i < many; i++) {
+            int what = random.nextInt(9);
+            int ones = what == 8 ? 1 : plain.count(what < 4 ? 0 : 1);
+            later("mend", random.nextInt(Math.max(1, ones)), what, random.nextInt(what == 3 ? 100 : what == 8 ? 10 : 13));
+        }
+        for (int i = random.nextInt(45); i > 0; i--) {
+            later("undo");
+            later("of", arguments("of"));
+        }
+        for (int i = random.nextInt(9); i > 0; i--) {
+            later("redo");
+            later("of", arguments("of"));
+        }
+    }
+
+    private void tellMachines() {
+        long[] pulls = new long[random.nextInt(28)];
+        for (int i = 0; i < pulls.length; i++) {
+            pulls[i] = random.nextInt(40) == 0 ? random.nextInt(256) : random.nextInt(13);
+        }
+        int shelf = random.nextInt(6);
+        cells(shelf, 0, pulls);
+        later("machines", shelf, random.nextInt(4), 1 + random.nextInt(8));
+        for (int machine = 0; machine < 8; machine++) {
+            later("of", machine, random.nextInt(3));
+        }
     }
 
     private void tellDay() {
@@ -299,6 +358,9 @@ public final class TwinTest {
     }
 
     private void runAll() {
+        if (random.nextInt(3) == 0) {
+            tellMachines();
+        }
         int begin = random.nextInt(9);
         for (int i = 0; i < begin; i++) {
             if (random.nextBoolean()) {
@@ -323,6 +385,8 @@ public final class TwinTest {
                 tellRows();
             } else if (sort == 5 && random.nextInt(3) == 0) {
                 tellGhosts();
+            } else if (sort == 6 && random.nextInt(4) == 0) {
+                tellChanges();
             } else {
                 String name = anyName();
                 call(name, arguments(name));
