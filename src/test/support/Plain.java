@@ -4,7 +4,7 @@ import java.util.Arrays;
 import java.util.List;
 
 /**
- * The class once more, from the document alone and in another way: rows are the host's own arrays, whose exceptions are
+ * The class once more, from the document and in another way: rows are the host's own arrays, whose exceptions are
  * the refusals, ghosts are the host's own classes, a text is tried out by its completions, and all else by all ways.
  */
 final class Plain {
